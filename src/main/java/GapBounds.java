@@ -24,11 +24,11 @@ public final class GapBounds {
     private static final int FAULT_BASE = -10, REFUSED_BASE = -20;
 
     /**
-     * A WEIGHT is one long: C times STEP less its EDGES. No sum that is made here has as many as STEP EDGES,
-     * so the sums, the order of pairs and "below nothing" are those of the longs.
+     * A WEIGHT is one long: C times STEP less its EDGES. No sum that is made here is of as many as STEP BOUNDS,
+     * so the sums, the order of pairs and "below nothing" are those of the longs, and none comes near NO_ROW.
      */
     private static final long STEP = 1024L;
-    private static final long NO_ROW = Long.MAX_VALUE;
+    private static final long NO_ROW = 1L << 62;
     private static final int SKIP_NONE = -1;
 
     private final Tape tape;
@@ -475,7 +475,7 @@ public final class GapBounds {
     }
 
     private static boolean is32Bits(long v) {
-        return v >= Integer.MIN_VALUE && v <= Integer.MAX_VALUE;
+        return v == (int) v;
     }
 
     private static long weigh(int c, int strict, int wholeness) {

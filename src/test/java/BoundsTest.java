@@ -94,6 +94,9 @@ public final class BoundsTest {
         CHECK.due("both do: the shorter is told", g.add(2, 0, -4, 0), GapBounds.STATE);
         CHECK.dueAll("conflict", new long[] {g.rule(7), g.conflict(0), g.conflict(1)}, 1, 2, GapBounds.NONE);
         CHECK.due("conflict(-1)", g.conflict(-1), GapBounds.BAD);
+        GapBounds nothing = Check.of("most a b 0;most b c 0;most a c 1;");
+        CHECK.due("a shorter ROW comes to just nothing", nothing.add(2, 0, -1, 0), GapBounds.STATE);
+        CHECK.dueAll("conflict", new long[] {nothing.rule(7), nothing.conflict(0), nothing.conflict(1)}, 2, 1, 0);
         GapBounds ring = Check.of("most i j0;most h i0;most g h0;most f g0;most e f0;most d e0;most c d0;most b c0;most a b0;");
         CHECK.due("nine BOUNDS", ring.add(9, 0, -1, 0), GapBounds.STATE);
         CHECK.due("rule(7)", ring.rule(7), 9);

@@ -150,6 +150,9 @@ public final class ImpliedTest {
     private static void waysEnds() {
         GapBounds g = Check.of("most a f 0;most f b -9;");
         CHECK.due("just BOUNDS between them", g.ways(2, 6), 49);
+        GapBounds next = Check.of("most a c -9;most c b -9;");
+        CHECK.due("the next THING is not between them", next.ways(2, 6), 49);
+        CHECK.due("with it", next.ways(3, 6), 0);
         GapBounds strict = Check.of("real;less a b 1;less b a 0;");
         CHECK.due("less than 1 and above 0: none is whole", strict.ways(2, 6), 0);
         GapBounds ends = new GapBounds();

@@ -127,6 +127,10 @@ public final class TextTest {
     private static void faultOne() {
         GapBounds g = new GapBounds();
         CHECK.dueText(g, "?", -10, 1);
+        CHECK.dueText(g, "`", -10, 1);
+        CHECK.dueText(g, "{", -10, 1);
+        CHECK.dueText(g, "/", -10, 1);
+        CHECK.dueText(g, ":", -10, 1);
         CHECK.dueText(g, "  A", -12, 1);
         CHECK.dueText(g, "\n", -10, 1);
         CHECK.dueText(g, "most\ta", -14, 1);
@@ -147,6 +151,10 @@ public final class TextTest {
         GapBounds g = new GapBounds();
         CHECK.dueText(g, "near", -10, 2);
         CHECK.dueText(g, "mosta b 1;", -10, 2);
+        CHECK.dueText(g, "lost a b 1;", -10, 2);
+        CHECK.dueText(g, "moss a b 1;", -10, 2);
+        CHECK.dueText(g, "zz", -10, 2);
+        CHECK.dueText(g, "az9", -10, 2);
         CHECK.dueText(g, "mos", -10, 2);
         CHECK.dueText(g, "mostt a b 1;", -10, 2);
         CHECK.dueText(g, "1", -10, 2);
@@ -165,6 +173,8 @@ public final class TextTest {
         CHECK.dueText(g, "most a 1;", -17, 2);
         CHECK.dueText(g, "most a", -16, 2);
         CHECK.dueText(g, "most a b", -18, 2);
+        CHECK.dueText(g, "most a b;", -18, 2);
+        CHECK.dueText(g, "most a b -;", -20, 2);
         CHECK.dueText(g, "most a b c;", -19, 2);
         CHECK.dueText(g, "most a b --1;", -20, 2);
         CHECK.dueText(g, "most a b -", -20, 2);
