@@ -21,7 +21,7 @@ public final class BoundsTest {
     }
 
     private static void add() {
-        GapBounds g = new GapBounds();
+        Subject g = new Subject();
         CHECK.due("add(-1, 1)", g.add(-1, 1, 0, 0), GapBounds.BAD);
         CHECK.due("add(10, 1)", g.add(10, 1, 0, 0), GapBounds.BAD);
         CHECK.due("add(1, -1)", g.add(1, -1, 0, 0), GapBounds.BAD);
@@ -41,7 +41,7 @@ public final class BoundsTest {
     }
 
     private static void addEnds() {
-        GapBounds g = new GapBounds();
+        Subject g = new Subject();
         CHECK.due("lowest, STRICT", g.add(0, 1, LOWEST, 1), 1);
         CHECK.due("highest: the sum is -2", g.add(1, 0, HIGHEST, 0), GapBounds.STATE);
         CHECK.due("round about", g.add(1, 2, HIGHEST, 0), 2);
@@ -54,7 +54,7 @@ public final class BoundsTest {
     }
 
     private static void addFull() {
-        GapBounds g = new GapBounds();
+        Subject g = new Subject();
         for (int i = 1; i <= 24; i++) {
             CHECK.due("add " + i, g.add(0, 1, 7, 0), i);
         }
@@ -69,7 +69,7 @@ public final class BoundsTest {
     }
 
     private static void may() {
-        GapBounds g = Check.of("most a b 3;less b c 2;");
+        Subject g = new Subject().told("most a b 3;less b c 2;");
         CHECK.due("may(2, 0, -4, 0)", g.may(2, 0, -4, 0), 1);
         CHECK.due("may(2, 0, -5, 0)", g.may(2, 0, -5, 0), 0);
         CHECK.due("may(2, 0, -4, 1)", g.may(2, 0, -4, 1), 0);
@@ -87,17 +87,17 @@ public final class BoundsTest {
     }
 
     private static void conflictFewest() {
-        GapBounds g = Check.of("most a b 0;most b c 0;most a c 3;");
+        Subject g = new Subject().told("most a b 0;most b c 0;most a c 3;");
         CHECK.due("the longer ROW alone speaks against it", g.add(2, 0, -1, 0), GapBounds.STATE);
         CHECK.dueAll("conflict", new long[] {g.rule(7), g.conflict(0), g.conflict(1), g.conflict(2)},
                 2, 1, 0, GapBounds.NONE);
         CHECK.due("both do: the shorter is told", g.add(2, 0, -4, 0), GapBounds.STATE);
         CHECK.dueAll("conflict", new long[] {g.rule(7), g.conflict(0), g.conflict(1)}, 1, 2, GapBounds.NONE);
         CHECK.due("conflict(-1)", g.conflict(-1), GapBounds.BAD);
-        GapBounds nothing = Check.of("most a b 0;most b c 0;most a c 1;");
+        Subject nothing = new Subject().told("most a b 0;most b c 0;most a c 1;");
         CHECK.due("a shorter ROW comes to just nothing", nothing.add(2, 0, -1, 0), GapBounds.STATE);
         CHECK.dueAll("conflict", new long[] {nothing.rule(7), nothing.conflict(0), nothing.conflict(1)}, 2, 1, 0);
-        GapBounds ring = Check.of("most i j0;most h i0;most g h0;most f g0;most e f0;most d e0;most c d0;most b c0;most a b0;");
+        Subject ring = new Subject().told("most i j0;most h i0;most g h0;most f g0;most e f0;most d e0;most c d0;most b c0;most a b0;");
         CHECK.due("nine BOUNDS", ring.add(9, 0, -1, 0), GapBounds.STATE);
         CHECK.due("rule(7)", ring.rule(7), 9);
         for (int i = 0; i < 9; i++) {
@@ -107,7 +107,7 @@ public final class BoundsTest {
     }
 
     private static void conflictFirst() {
-        GapBounds g = Check.of("most a b 9;most a b 2;most a b 1;most b c 5;most a d 0;most d c 0;most b c 0;");
+        Subject g = new Subject().told("most a b 9;most a b 2;most a b 1;most b c 5;most a d 0;most d c 0;most b c 0;");
         CHECK.due("refused", g.add(2, 0, -3, 0), GapBounds.STATE);
         CHECK.dueAll("the first by the numbers, from its x on", new long[] {g.rule(7), g.conflict(0), g.conflict(1)}, 2, 5, 4);
         g.drop(4);
@@ -120,7 +120,7 @@ public final class BoundsTest {
     }
 
     private static void conflictStays() {
-        GapBounds g = Check.of("most c d 1;most a b 1;most a b 2;");
+        Subject g = new Subject().told("most c d 1;most a b 1;most a b 2;");
         CHECK.due("refused", g.add(1, 0, -2, 0), GapBounds.STATE);
         CHECK.due("conflict", g.conflict(0), 1);
         g.drop(0);
@@ -139,7 +139,7 @@ public final class BoundsTest {
     }
 
     private static void drop() {
-        GapBounds g = new GapBounds();
+        Subject g = new Subject();
         CHECK.due("drop of none", g.drop(0), GapBounds.BAD);
         g.add(0, 1, 10, 0);
         g.push();
@@ -162,7 +162,7 @@ public final class BoundsTest {
     }
 
     private static void change() {
-        GapBounds g = Check.of("most a b 5;less b c 1;most c a 9;most b a 3;");
+        Subject g = new Subject().told("most a b 5;less b c 1;most c a 9;most b a 3;");
         CHECK.due("change(-1)", g.change(-1, 0), GapBounds.BAD);
         CHECK.due("change(4)", g.change(4, 0), GapBounds.BAD);
         CHECK.due("change(0, -3)", g.change(0, -3), 1);
@@ -182,7 +182,7 @@ public final class BoundsTest {
     }
 
     private static void shift() {
-        GapBounds g = Check.of("most a b 5;less b a 3;most c d 1;most c a 2;");
+        Subject g = new Subject().told("most a b 5;less b a 3;most c d 1;most c a 2;");
         CHECK.due("shift(-1)", g.shift(-1, 1), GapBounds.BAD);
         CHECK.due("shift(10)", g.shift(10, 1), GapBounds.BAD);
         CHECK.due("shift(9, 1) of no BOUND", g.shift(9, HIGHEST), 0);
@@ -207,7 +207,7 @@ public final class BoundsTest {
     }
 
     private static void whole() {
-        GapBounds g = Check.of("less a b 1;less b a 1;");
+        Subject g = new Subject().told("less a b 1;less b a 1;");
         CHECK.due("whole(2)", g.whole(2), GapBounds.BAD);
         CHECK.due("whole(-1)", g.whole(-1), GapBounds.BAD);
         CHECK.due("whole(1)", g.whole(1), 1);
@@ -224,7 +224,7 @@ public final class BoundsTest {
     }
 
     private static void levels() {
-        GapBounds g = new GapBounds();
+        Subject g = new Subject();
         CHECK.due("pop(0)", g.pop(0), GapBounds.BAD);
         CHECK.due("level(0)", g.level(0), GapBounds.BAD);
         for (int i = 1; i <= 8; i++) {

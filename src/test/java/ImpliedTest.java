@@ -20,7 +20,7 @@ public final class ImpliedTest {
     }
 
     private static void implied() {
-        GapBounds g = Check.of("most a b 5;less b c 3;most a c 8;most c d -4;");
+        Subject g = new Subject().told("most a b 5;less b c 3;most a c 8;most c d -4;");
         CHECK.due("implied(0, 1)", g.implied(0, 1, 0), 5);
         CHECK.due("implied(1, 2)", g.implied(1, 2, 0), 2);
         CHECK.due("implied(0, 2): the ROW is less", g.implied(0, 2, 0), 7);
@@ -37,7 +37,7 @@ public final class ImpliedTest {
     }
 
     private static void impliedEdges() {
-        GapBounds g = Check.of("real;less a b -5;less b c 3;most a c -2;most a d -3;less d c 0;");
+        Subject g = new Subject().told("real;less a b -5;less b c 3;most a c -2;most a d -3;less d c 0;");
         CHECK.dueAll("of alike C more EDGES", new long[] {g.implied(0, 2, 0), g.implied(0, 2, 1)}, -3, 1);
         g.change(1, 2);
         CHECK.dueAll("of alike C more EDGES", new long[] {g.implied(0, 2, 0), g.implied(0, 2, 1)}, -3, 2);
@@ -47,7 +47,7 @@ public final class ImpliedTest {
     }
 
     private static void fixed() {
-        GapBounds g = Check.of("same a b 4;most b c 1;most c a -4;most d e 1;most e d 0;");
+        Subject g = new Subject().told("same a b 4;most b c 1;most c a -4;most d e 1;most e d 0;");
         CHECK.due("fixed(0, 1)", g.fixed(0, 1), 1);
         CHECK.due("fixed(1, 0)", g.fixed(1, 0), 1);
         CHECK.due("fixed(0, 2)", g.fixed(0, 2), 0);
@@ -59,19 +59,19 @@ public final class ImpliedTest {
         CHECK.due("fixed(10, 0)", g.fixed(10, 0), GapBounds.BAD);
         CHECK.due("fixed(10, 10)", g.fixed(10, 10), GapBounds.BAD);
         CHECK.due("fixed(0, -1)", g.fixed(0, -1), GapBounds.BAD);
-        GapBounds strict = Check.of("less a b 1;most b a 0;");
+        Subject strict = new Subject().told("less a b 1;most b a 0;");
         CHECK.due("whole: fixed", strict.fixed(0, 1), 1);
         CHECK.due("whole: groups", strict.rule(6), 9);
         strict.whole(0);
         CHECK.due("real: not fixed", strict.fixed(0, 1), 0);
         CHECK.due("real: groups", strict.rule(6), 10);
-        GapBounds ring = Check.of("real;most a b 0;most b c 0;most c a 0;same e f 1;");
+        Subject ring = new Subject().told("real;most a b 0;most b c 0;most c a 0;same e f 1;");
         CHECK.due("round a CIRCLE", ring.fixed(2, 1), 1);
         CHECK.due("groups", ring.rule(6), 7);
     }
 
     private static void high() {
-        GapBounds g = Check.of("most a b -5;most b c 3;less c d -1;most e a 9;");
+        Subject g = new Subject().told("most a b -5;most b c 3;less c d -1;most e a 9;");
         CHECK.dueAll("high", new long[] {g.high(0, 0), g.high(1, 0), g.high(2, 0), g.high(3, 0), g.high(4, 0)},
                 -5, 0, -2, 0, 0);
         g.change(1, 1);
@@ -86,7 +86,7 @@ public final class ImpliedTest {
     }
 
     private static void reach() {
-        GapBounds g = Check.of("real;less a b 5;most b a 2;most c a -1;");
+        Subject g = new Subject().told("real;less a b 5;most b a 2;most c a -1;");
         CHECK.dueAll("a by b at 10", new long[] {g.reach(0, 1, 10, 0), g.reach(0, 1, 10, 1), g.reach(0, 1, 10, 2),
             g.reach(0, 1, 10, 3)}, 15, 8, 1, 0);
         CHECK.dueAll("b by a at 10", new long[] {g.reach(1, 0, 10, 0), g.reach(1, 0, 10, 1), g.reach(1, 0, 10, 2),
@@ -109,7 +109,7 @@ public final class ImpliedTest {
     }
 
     private static void room() {
-        GapBounds g = Check.of("most a b 5;less b c 3;");
+        Subject g = new Subject().told("most a b 5;less b c 3;");
         CHECK.dueAll("whole", new long[] {g.room(2, 0, 0), g.room(2, 0, 1), g.room(1, 0, 0), g.room(1, 0, 1)}, -7, 0, -5, 0);
         CHECK.due("that one could", g.may(2, 0, -7, 0), 1);
         CHECK.due("one less could not", g.may(2, 0, -8, 0), 0);
@@ -127,7 +127,7 @@ public final class ImpliedTest {
     }
 
     private static void ways() {
-        GapBounds g = new GapBounds();
+        Subject g = new Subject();
         CHECK.due("ways(0, 3)", g.ways(0, 3), GapBounds.BAD);
         CHECK.due("ways(6, 3)", g.ways(6, 3), GapBounds.BAD);
         CHECK.due("ways(1, -1)", g.ways(1, -1), GapBounds.BAD);
@@ -148,14 +148,14 @@ public final class ImpliedTest {
     }
 
     private static void waysEnds() {
-        GapBounds g = Check.of("most a f 0;most f b -9;");
+        Subject g = new Subject().told("most a f 0;most f b -9;");
         CHECK.due("just BOUNDS between them", g.ways(2, 6), 49);
-        GapBounds next = Check.of("most a c -9;most c b -9;");
+        Subject next = new Subject().told("most a c -9;most c b -9;");
         CHECK.due("the next THING is not between them", next.ways(2, 6), 49);
         CHECK.due("with it", next.ways(3, 6), 0);
-        GapBounds strict = Check.of("real;less a b 1;less b a 0;");
+        Subject strict = new Subject().told("real;less a b 1;less b a 0;");
         CHECK.due("less than 1 and above 0: none is whole", strict.ways(2, 6), 0);
-        GapBounds ends = new GapBounds();
+        Subject ends = new Subject();
         ends.add(0, 1, LOWEST, 1);
         CHECK.due("far below", ends.ways(2, 6), 0);
         ends.drop(0);
@@ -167,7 +167,7 @@ public final class ImpliedTest {
     }
 
     private static void grow() {
-        GapBounds g = new GapBounds();
+        Subject g = new Subject();
         CHECK.due("grow(1, 0)", g.grow(1, 0), GapBounds.BAD);
         CHECK.due("grow(1, 21)", g.grow(1, 21), GapBounds.BAD);
         CHECK.due("grow(1, -1)", g.grow(1, -1), GapBounds.BAD);
@@ -178,7 +178,7 @@ public final class ImpliedTest {
 
     /** One BOUND at a time by the words of the promise, in long arithmetic of its own. */
     private static void growFrom(int seed) {
-        GapBounds want = new GapBounds();
+        Subject want = new Subject();
         long state = seed;
         int came = 0;
         for (int i = 0; i < 20; i++) {
@@ -192,18 +192,18 @@ public final class ImpliedTest {
                 came++;
             }
         }
-        GapBounds got = new GapBounds();
+        Subject got = new Subject();
         CHECK.due("grow(" + seed + ", 20)", got.grow(seed, 20), came);
         CHECK.same("grown by " + seed, bounds(got), bounds(want));
     }
 
-    private static String bounds(GapBounds g) {
+    private static String bounds(Subject g) {
         String state = Check.state(g);
         return state.substring(0, state.indexOf(" conflict"));
     }
 
     private static void growRefused() {
-        GapBounds g = new GapBounds();
+        Subject g = new Subject();
         for (int i = 0; i < 10; i++) {
             for (int j = 0; j < 2; j++) {
                 g.add(i, (i + 1) % 10, 12, 0);

@@ -2,13 +2,14 @@ import java.util.Random;
 
 /** Long runs of calls, answered by the class and by PlainModel. Seeds are fixed: every run is the same. */
 public final class ModelTest {
-    private static final int CALLS = 512;
+    /** More than the calls of the dearest step but text(), which asks for itself. */
+    private static final int STEP_CALLS = 50;
     private static final String[] KEYS = {"most", "less", "least", "over", "same"};
     private static final String[] SCRAPS = {"real;", "real", " ", "?", "12345", "-", ";", "near", "k", "ab", ".", "a a"};
 
     private final Check check;
     private final Random random;
-    private final GapBounds g = new GapBounds();
+    private final Subject g = new Subject();
     private final PlainModel m = new PlainModel();
     private final int run;
     private int asked = 0;
@@ -20,7 +21,7 @@ public final class ModelTest {
     }
 
     public static void main(String[] args) {
-        int runs = args.length > 0 ? Integer.parseInt(args[0]) : 400;
+        int runs = args.length > 0 ? Integer.parseInt(args[0]) : 1000;
         int first = args.length > 1 ? Integer.parseInt(args[1]) : 1;
         Check check = new Check();
         for (int run = first; run < first + runs; run++) {
@@ -29,8 +30,10 @@ public final class ModelTest {
         check.close("ModelTest");
     }
 
+    /** All of an object's calls, the last of them questions about anything. */
     private void play() {
-        while (asked < CALLS) {
+        int questions = STEP_CALLS + random.nextInt(150);
+        while (g.left() > questions) {
             switch (random.nextInt(12)) {
                 case 0 -> text();
                 case 1, 2, 3 -> bounds();
@@ -41,7 +44,9 @@ public final class ModelTest {
                 default -> questions();
             }
         }
-        everything();
+        while (g.left() > 0) {
+            anything();
+        }
     }
 
     private void due(String call, long got, long want) {
@@ -68,9 +73,6 @@ public final class ModelTest {
     }
 
     private void text() {
-        if (random.nextInt(3) == 0) {
-            return;
-        }
         StringBuilder all = new StringBuilder();
         int lines = random.nextInt(random.nextInt(6) == 0 ? 30 : 7);
         boolean close = random.nextInt(4) == 0;
@@ -85,6 +87,9 @@ public final class ModelTest {
                     .append((char) ('a' + pick(10))).append(random.nextBoolean() ? " " : "");
             int s = close ? random.nextInt(6) - 3 : random.nextInt(60) - 20;
             all.append(s).append(random.nextInt(40) == 0 ? SCRAPS[random.nextInt(SCRAPS.length)] : "").append(';');
+        }
+        if (random.nextInt(3) == 0 || all.length() + STEP_CALLS > g.left()) {
+            return;
         }
         for (int i = 0; i < all.length(); i++) {
             int c = all.charAt(i);
@@ -204,27 +209,22 @@ public final class ModelTest {
         due("tightest(" + k % 10 + ", " + y + ")", g.tightest(k % 10, y), m.tightest(k % 10, y));
     }
 
-    private void everything() {
-        for (int what = -1; what <= 8; what++) {
-            due("rule(" + what + ")", g.rule(what), m.rule(what));
-            due("count(" + what + ")", g.count(what), m.count(what));
-        }
-        for (int k = -1; k <= 24; k++) {
-            for (int what = -1; what <= 5; what++) {
-                due("bound(" + k + ", " + what + ")", g.bound(k, what), m.bound(k, what));
-            }
-            due("limit(" + k + ")", g.limit(k), m.limit(k));
-            due("pair(" + k + ")", g.pair(k), m.pair(k));
-            due("level(" + k + ")", g.level(k), m.level(k));
-            due("conflict(" + k + ")", g.conflict(k), m.conflict(k));
-        }
-        for (int x = -1; x <= 10; x++) {
-            for (int y = -1; y <= 10; y++) {
-                due("implied(" + x + ", " + y + ", 0)", g.implied(x, y, 0), m.implied(x, y, 0));
-                due("implied(" + x + ", " + y + ", 1)", g.implied(x, y, 1), m.implied(x, y, 1));
-                due("fixed(" + x + ", " + y + ")", g.fixed(x, y), m.fixed(x, y));
-                due("tightest(" + x + ", " + y + ")", g.tightest(x, y), m.tightest(x, y));
-            }
+    private void anything() {
+        int x = random.nextInt(12) - 1;
+        int y = random.nextInt(12) - 1;
+        int k = random.nextInt(26) - 1;
+        int what = random.nextInt(10) - 1;
+        switch (random.nextInt(12)) {
+            case 0 -> due("rule(" + what + ")", g.rule(what), m.rule(what));
+            case 1 -> due("count(" + what + ")", g.count(what), m.count(what));
+            case 2 -> due("limit(" + k + ")", g.limit(k), m.limit(k));
+            case 3 -> due("pair(" + k + ")", g.pair(k), m.pair(k));
+            case 4 -> due("level(" + what + ")", g.level(what), m.level(what));
+            case 5 -> due("conflict(" + what + ")", g.conflict(what), m.conflict(what));
+            case 6 -> due("fixed(" + x + ", " + y + ")", g.fixed(x, y), m.fixed(x, y));
+            case 7 -> due("tightest(" + x + ", " + y + ")", g.tightest(x, y), m.tightest(x, y));
+            case 8, 9 -> due("implied(" + x + ", " + y + ", " + what % 3 + ")", g.implied(x, y, what % 3), m.implied(x, y, what % 3));
+            default -> due("bound(" + k + ", " + what % 6 + ")", g.bound(k, what % 6), m.bound(k, what % 6));
         }
     }
 }

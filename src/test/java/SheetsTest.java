@@ -19,7 +19,7 @@ public final class SheetsTest {
     }
 
     private static void keepAndBack() {
-        GapBounds g = Check.of("real;most a b 5;less b c 1;");
+        Subject g = new Subject().told("real;most a b 5;less b c 1;");
         g.push();
         CHECK.due("keep(-1)", g.keep(-1), GapBounds.BAD);
         CHECK.due("keep(2)", g.keep(2), GapBounds.BAD);
@@ -40,7 +40,7 @@ public final class SheetsTest {
     }
 
     private static void imagesStandAlone() {
-        GapBounds g = Check.of("most a b 5;");
+        Subject g = new Subject().told("most a b 5;");
         g.keep(0);
         g.change(0, 6);
         g.push();
@@ -62,7 +62,7 @@ public final class SheetsTest {
     }
 
     private static void sheet() {
-        GapBounds g = new GapBounds();
+        Subject g = new Subject();
         CHECK.due("sheet(-1)", g.sheet(-1, 0, 1), GapBounds.BAD);
         CHECK.due("sheet(4)", g.sheet(4, 0, 1), GapBounds.BAD);
         CHECK.due("sheet lane -1", g.sheet(0, -1, 1), GapBounds.BAD);
@@ -89,7 +89,7 @@ public final class SheetsTest {
     }
 
     private static void lay() {
-        GapBounds g = new GapBounds();
+        Subject g = new Subject();
         CHECK.due("lay(-1)", g.lay(-1, 0, 0), GapBounds.BAD);
         CHECK.due("lay(4)", g.lay(4, 0, 0), GapBounds.BAD);
         CHECK.due("lay of nothing", g.lay(3, 0, 0), -11);
@@ -107,7 +107,7 @@ public final class SheetsTest {
         long[][] want = {{0x78, -128, -1, 0}, {0x5678, 0x80, -1, -32768}, {0x12345678, 0x7FFF0080, -1, 0x18000}};
         for (int lane = 0; lane < 3; lane++) {
             for (int i = 0; i < laid.length; i++) {
-                GapBounds g = new GapBounds();
+                Subject g = new Subject();
                 g.sheet(1, lane, 4);
                 g.lay(1, 0, 256 * 65536 * lane + (lane < 2 ? 0x50000 : 0) + (lane < 2 ? 3 : -256 * 65536 * 2 + 3));
                 g.lay(1, 1, 2);
@@ -121,8 +121,8 @@ public final class SheetsTest {
         }
     }
 
-    private static GapBounds withSheet(int lane, int... cells) {
-        GapBounds g = new GapBounds();
+    private static Subject withSheet(int lane, int... cells) {
+        Subject g = new Subject();
         g.sheet(2, lane, cells.length);
         for (int i = 0; i < cells.length; i++) {
             g.lay(2, i, cells[i]);
@@ -131,14 +131,14 @@ public final class SheetsTest {
     }
 
     private static void readAll() {
-        GapBounds g = withSheet(1, 9, 0, 1, 5, 0, 1, 2, -3, 1, 2, 3, 7, 0);
+        Subject g = withSheet(1, 9, 0, 1, 5, 0, 1, 2, -3, 1, 2, 3, 7, 0);
         CHECK.due("read of 0", g.read(2, 1, 1, 0), 0);
         CHECK.due("read", g.read(2, 1, 1, 2), 2);
         CHECK.due("torn", g.torn(), 0);
         CHECK.same("read", Check.state(g), "2 1 bounds 0,1,5,0 1,2,-3,1 levels conflict images 0");
         CHECK.due("one more", g.read(2, 1, 9, 1), 1);
         CHECK.due("rule(0)", g.rule(0), 3);
-        GapBounds ten = new GapBounds();
+        Subject ten = new Subject();
         ten.sheet(0, 0, 40);
         for (int i = 0; i < 10; i++) {
             ten.lay(0, 4 * i, i);
@@ -153,7 +153,7 @@ public final class SheetsTest {
     }
 
     private static void readTorn() {
-        GapBounds g = withSheet(1, 0, 1, 5, 0, 1, 2, -3, 1, 2, 3, 7);
+        Subject g = withSheet(1, 0, 1, 5, 0, 1, 2, -3, 1, 2, 3, 7);
         CHECK.due("the third is not whole", g.read(2, 1, 0, 3), 2);
         CHECK.due("torn", g.torn(), 2);
         CHECK.due("they came", g.rule(0), 2);
@@ -176,7 +176,7 @@ public final class SheetsTest {
     }
 
     private static void readTornOrder() {
-        GapBounds g = withSheet(0, 0, 1, 5, 0);
+        Subject g = withSheet(0, 0, 1, 5, 0);
         g.read(2, 0, 0, 1);
         CHECK.due("CAST is ahead of INDEX", g.read(2, 1, 99, 1), 0);
         CHECK.due("torn", g.torn(), 3);
@@ -185,15 +185,15 @@ public final class SheetsTest {
         g.sheet(2, 0, 0);
         CHECK.due("no CELLS", g.read(2, 0, 0, 1), 0);
         CHECK.due("torn", g.torn(), 2);
-        GapBounds refused = withSheet(0, 0, 1, 5, 0, 3, 3, 0, 0, 1);
+        Subject refused = withSheet(0, 0, 1, 5, 0, 3, 3, 0, 0, 1);
         CHECK.due("the first met: refused", refused.read(2, 0, 0, 3), -21);
-        GapBounds half = withSheet(0, 0, 1, 5, 0, 3, 3);
+        Subject half = withSheet(0, 0, 1, 5, 0, 3, 3);
         CHECK.due("the first met: torn, not whole", half.read(2, 0, 0, 2), 1);
         CHECK.due("torn", half.torn(), 2);
     }
 
     private static void readRefused() {
-        GapBounds g = withSheet(1, 0, 1, 5, 0, 1, 2, -3, 1, 2, 0, -2, 0);
+        Subject g = withSheet(1, 0, 1, 5, 0, 1, 2, -3, 1, 2, 0, -2, 0);
         g.add(8, 9, 1, 0);
         g.push();
         CHECK.due("the third can not be", g.read(2, 1, 0, 3), -22);
@@ -212,7 +212,7 @@ public final class SheetsTest {
     }
 
     private static void readBad() {
-        GapBounds g = withSheet(1, 0, 1, 5, 0);
+        Subject g = withSheet(1, 0, 1, 5, 0);
         CHECK.due("read(-1)", g.read(-1, 1, 0, 1), GapBounds.BAD);
         CHECK.due("read(4)", g.read(4, 1, 0, 1), GapBounds.BAD);
         CHECK.due("read lane -1", g.read(2, -1, 0, 1), GapBounds.BAD);
@@ -223,7 +223,7 @@ public final class SheetsTest {
     }
 
     private static void tornStays() {
-        GapBounds g = withSheet(1, 0, 1, 5, 0, 1, 1, 0, 0);
+        Subject g = withSheet(1, 0, 1, 5, 0, 1, 1, 0, 0);
         g.read(2, 0, 0, 1);
         CHECK.due("torn", g.torn(), 3);
         g.read(2, 1, 0, 11);
@@ -238,7 +238,7 @@ public final class SheetsTest {
     }
 
     private static void count() {
-        GapBounds g = Check.of("less a b 5;less a b 6;most b a 9;over c d 1;");
+        Subject g = new Subject().told("less a b 5;less a b 6;most b a 9;over c d 1;");
         CHECK.due("count(0)", g.count(0), 0);
         g.keep(1);
         CHECK.due("count(0)", g.count(0), 1);
