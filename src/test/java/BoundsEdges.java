@@ -249,6 +249,47 @@ final class BoundsEdges {
         CHECK.same("its own EDGE counts", Scene.conflict(own), "2");
     }
 
+    static void promise13ConflictOfWeightsSummed() {
+        Subject g = new Subject().told("most a b 3;most b c 2;most a d 1;most d e 1;most e c 1;");
+        int[] cs = {-4, -5, -6};
+        String[] due = {"4 3 2", "4 3 2", "1 0"};
+        for (int i = 0; i < cs.length; i++) {
+            CHECK.due("refused", g.add(2, 0, cs[i], 0), GapBounds.STATE);
+            CHECK.same("5 by two, 3 by three: CONFLICT of " + cs[i], Scene.conflict(g), due[i]);
+        }
+        Subject first = new Subject().told("most b c 3;most a b 2;most d c 1;most a d 1;most d c 0;most a d 2;");
+        int[] sums = {-2, -3, -4, -5, -6};
+        String[] rows = {"4 3", "2 3", "2 3", "2 3", "0 1"};
+        for (int i = 0; i < sums.length; i++) {
+            CHECK.due("refused", first.add(2, 0, sums[i], 0), GapBounds.STATE);
+            CHECK.same("the first with a sum below: CONFLICT of " + sums[i], Scene.conflict(first), rows[i]);
+        }
+        Subject low = new Subject().told("most b c -9;most a b 9;most d c -1;most a d 0;");
+        low.add(2, 0, 0, 0);
+        CHECK.same("-9 and 9 is not below nothing", Scene.conflict(low), "2 3");
+        low.add(2, 0, -1, 0);
+        CHECK.same("with -1 it is", Scene.conflict(low), "0 1");
+    }
+
+    static void promise13ConflictOfBoundsThatAreThere() {
+        Subject g = new Subject().told("most a b 0;most b c 0;most a c 0;");
+        g.drop(2);
+        CHECK.due("refused", g.add(2, 0, -1, 0), GapBounds.STATE);
+        CHECK.same("what was dropped does not speak", Scene.conflict(g), "1 0");
+        g.push();
+        g.add(0, 2, 0, 0);
+        g.pop(0);
+        CHECK.due("refused", g.add(2, 0, -2, 0), GapBounds.STATE);
+        CHECK.same("what was popped does not speak", Scene.conflict(g), "1 0");
+        Subject full = new Subject().filled(22, 5, 6, 9);
+        full.add(0, 1, 4, 0);
+        full.add(1, 0, -4, 0);
+        CHECK.due("the 24th speaks", full.change(22, 3), GapBounds.STATE);
+        CHECK.same("CONFLICT", Scene.conflict(full), "23");
+        CHECK.due("against the 24th", full.change(23, -5), GapBounds.STATE);
+        CHECK.same("CONFLICT", Scene.conflict(full), "22");
+    }
+
     static void promise13ConflictTheFirstByNumbers() {
         CHECK.words(13, "of several the first by the numbers of the BOUNDS, one by one.");
         Subject g = new Subject().told("most a b 1;most b c 1;most a b 0;most b c 0;most a d 0;most d c 0;");

@@ -253,9 +253,10 @@ final class ImpliedEdges {
     static void promise25RoomIsWhereAddTurns() {
         CHECK.words(25, "The least C with which a BOUND of x, y, not STRICT, could come: C (what 0)");
         CHECK.words(25, "whether with just that C it could not, but with any more (1; 1, 0; with WHOLE 1 always 0).");
-        String[] texts = {"most a b 3;most b c 2;", "less a b 3;most b c 2;", "real;most a b 3;most b c 2;", "real;less a b 3;less b c 2;"};
-        long[] due = {-5, -4, -5, -5};
-        long[] open = {0, 0, 0, 1};
+        String[] texts = {"most a b 3;most b c 2;", "less a b 3;most b c 2;", "real;most a b 3;most b c 2;",
+            "real;less a b 3;most b c 2;", "real;less a b 3;less b c 2;"};
+        long[] due = {-5, -4, -5, -5, -5};
+        long[] open = {0, 0, 0, 1, 1};
         for (int i = 0; i < texts.length; i++) {
             Subject g = new Subject().told(texts[i]);
             CHECK.dueAll(texts[i], new long[] {g.room(2, 0, 0), g.room(2, 0, 1)}, due[i], open[i]);
@@ -343,6 +344,18 @@ final class ImpliedEdges {
             g.add(0, 1, HIGHEST, strict);
             CHECK.due("HIGHEST", g.ways(2, 6), 49);
         }
+    }
+
+    static void promise26WaysOfNoneAndOf24Bounds() {
+        Subject g = new Subject().filled(23, 0, 1, 6);
+        g.add(0, 1, -1, 0);
+        CHECK.due("the 24th counts", g.ways(2, 6), 21);
+        g.drop(23);
+        CHECK.due("what went does not", g.ways(2, 6), 49);
+        g.push();
+        g.add(1, 0, -1, 0);
+        g.pop(0);
+        CHECK.due("what went does not", g.ways(2, 6), 49);
     }
 
     static void promise26WaysWithWhole0MayBeNone() {

@@ -157,7 +157,7 @@ final class TextEdges {
         CHECK.words(4, "line: real ; | K V V S ; K: most | less | least | over | same");
         CHECK.words(4, "2 a TOKEN that can not stand there (a NAME that begins no line, is no V");
         for (String name : new String[] {"mos", "mostt", "leas", "leasts", "les", "lesss", "lest", "ove", "overr", "sam",
-            "samee", "rea", "reall", "near", "m", "a", "z", "same" + "same"}) {
+            "samee", "rea", "reall", "near", "teal", "lost", "mess", "beast", "aver", "fame", "reel", "moat", "leass", "mosu", "m", "a", "z", "same" + "same"}) {
             fault(name + " a b 1;", 2, 0);
         }
         for (String kind : KINDS) {
