@@ -43,7 +43,6 @@ public final class GapBounds {
     private int latestTorn;
 
     public GapBounds() {
-        tape = new Tape();
         now = new Store();
         images = new Store[IMAGES];
         imageMade = new boolean[IMAGES];
@@ -57,7 +56,8 @@ public final class GapBounds {
         rows = new Rows();
         clash = new Clash();
         span = new Span();
-        reader = new Reader(tape);
+        reader = new Reader();
+        tape = reader.tape;
         latestTorn = 0;
     }
 
@@ -916,18 +916,14 @@ public final class GapBounds {
         private static final int REAL = 0, MOST = 1, LESS = 2, LEAST = 3, OVER_LINE = 4, SAME = 5, NO_LINE = -1;
         private static final int MOST_FIGURES = 4;
 
+        final Tape tape = new Tape();
         final Store draft = new Store();
         int wrong;
         int wrongAt;
         int lines;
-        private final Tape tape;
         private int kind;
         private int at;
         private int behind;
-
-        Reader(Tape tape) {
-            this.tape = tape;
-        }
 
         void readAll() {
             draft.empty();

@@ -100,6 +100,8 @@ public final class LanguageTest {
         for (String sign : NO_SIGNS) {
             CHECK.due("the sign " + sign, code.contains(sign) ? 1 : 0, 0);
         }
+        boolean handed = Pattern.compile("\\bnew [A-Z]\\w*\\((?!\\))").matcher(code).find();
+        CHECK.due("no constructor is handed a part of another object", handed ? 1 : 0, 0);
         long imports = code.lines().filter(l -> l.startsWith("import ")).count();
         CHECK.due("imports", imports, code.contains("import java.util.Arrays;") ? 1 : 0);
     }
